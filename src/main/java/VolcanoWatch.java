@@ -295,7 +295,8 @@ public final class VolcanoWatch {
         Plan plan = plans[m];
         if (!plan.known) {
             noteWarnings();
-            makePlan(plan, m);
+            plan.start(lostCost(), buriedCost());
+            tryMoreWorks(plan, m);
         }
         return plan.part(what);
     }
@@ -463,8 +464,7 @@ public final class VolcanoWatch {
     }
 
     /** Sets come by size, then by their numbers, so that of like costs the first one stays. */
-    private void makePlan(Plan plan, int m) {
-        plan.start(lostCost(), buriedCost());
+    private void tryMoreWorks(Plan plan, int m) {
         int numbers = 2 * land.candidateCount;
         for (int a = 0; a < numbers && m >= 1; a++) {
             if (land.putNumbered(a)) {
@@ -492,7 +492,7 @@ public final class VolcanoWatch {
         int people = places.allPeople();
         int lost = 0;
         int buried = 0;
-        for (int i = 0; i < worldCount; i++) {
+        for (int i = 0; i < worldCount && lost <= plan.lost; i++) {
             trial.stepLava(land, worlds[i]);
             if (trial.shutsLike(forecasts[i], places)) {
                 trial.saved = forecasts[i].saved;
@@ -604,14 +604,14 @@ public final class VolcanoWatch {
                 at++;
             }
             token = STRANGE;
-            int number = 0;
+            int listed = 0;
             int from = 0;
             for (int i = 0; i < WORDS.length(); i++) {
                 if (WORDS.charAt(i) == ' ') {
                     if (isWordAt(from, i)) {
-                        token = number;
+                        token = listed;
                     }
-                    number++;
+                    listed++;
                     from = i + 1;
                 }
             }
@@ -1171,16 +1171,17 @@ public final class VolcanoWatch {
                 case Tape.SUM: return sum;
                 case Tape.COUNT: return present;
                 case Tape.GAPS: return absent;
-                case Tape.MAX: return ofSome(greatest);
-                case Tape.MIN: return ofSome(least);
-                case Tape.FIRST: return ofSome(ofEarliest);
-                case Tape.LAST: return ofSome(ofLatest);
-                default: return RuleBook.NO_VALUE;
+                default: break;
             }
-        }
-
-        private long ofSome(int value) {
-            return present == 0 ? RuleBook.NO_VALUE : value;
+            if (present == 0) {
+                return RuleBook.NO_VALUE;
+            }
+            switch (what) {
+                case Tape.MAX: return greatest;
+                case Tape.MIN: return least;
+                case Tape.FIRST: return ofEarliest;
+                default: return ofLatest;
+            }
         }
     }
 
@@ -1382,9 +1383,9 @@ public final class VolcanoWatch {
                 }
             }
             for (int cell = 0; cell < land.cellCount; cell++) {
-                rest(base, cell);
-                if (lava[base + cell] > 0 && reached[cell] > step) {
-                    reached[cell] = step;
+                lava[base + cell] += gain[cell];
+                if (lava[base + cell] > 0) {
+                    rest(base, cell, step);
                 }
             }
         }
@@ -1423,12 +1424,13 @@ public final class VolcanoWatch {
             return former == NONE || tops[next] < tops[former] ? next : former;
         }
 
-        private void rest(int base, int cell) {
-            lava[base + cell] += gain[cell];
-            if (lava[base + cell] > 0 && moved[cell] == 0) {
+        private void rest(int base, int cell, int step) {
+            if (moved[cell] == 0) {
                 lava[base + cell]--;
                 ground[base + cell]++;
             }
+            // What cooled wholly had its lava in the step before.
+            reached[cell] = Math.min(reached[cell], step);
         }
 
         /** Whether all that closes in the one closes when it does in the other. */
