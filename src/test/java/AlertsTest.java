@@ -84,9 +84,21 @@ public final class AlertsTest {
         Check.due("no rules: lines", x.count(3), 0);
         Check.due("no rules: keep", x.count(4), 0);
         Check.due("no rules: raw", x.raw(0, 0), 0);
+        cutOff(x, "keep 123;", 6, 1, 6);
+        cutOff(x, "keepsake", 4, 1, 4);
+        cutOff(x, "level 1 1<=2;", 10, 1, 10);
+        cutOff(x, "level 1 1<>2;", 10, 1, 10);
+        cutOff(x, "level 1 12;", 9, 1, 9);
         Check.due("blanks alone", Check.rules(x, " \n \n"), 0);
         Check.due("no blanks", Check.rules(x, "level1not1and-1;keep0;"), 2);
         Check.due("zeros ahead", Check.rules(x, "level 01 000000000000000000000001;keep 0024;"), 2);
+    }
+
+    private static void cutOff(VolcanoWatch x, String text, int n, int kind, int place) {
+        Check.feed(x, text);
+        Check.due("the first " + n + " of '" + text + "'", x.rules(n), -1);
+        Check.due("its fault", x.fault(0), kind);
+        Check.due("its place", x.fault(1), place);
     }
 
     private static void promise4Fault() {
@@ -123,6 +135,9 @@ public final class AlertsTest {
         fault("keep 3; \t", 1, 8);
         fault("Level 1 1;", 1, 0);
         fault("levels 1 1;", 1, 0);
+        fault("keepz 1;", 1, 0);
+        fault("akeep 1;", 1, 0);
+        fault("kee 1;", 1, 0);
         fault("level 1 1; or", 1, 11);
         fault("level 1 1; 2;", 1, 11);
         fault("level ;", 1, 6);
@@ -376,6 +391,18 @@ public final class AlertsTest {
         Check.due("tries hour 100", x.tries(0, 100, 0), NO_VALUE);
         Check.due("tries k -1", x.tries(0, 0, -1), NO_VALUE);
         Check.due("tries k 100", x.tries(0, 0, 100), NO_VALUE);
+        Check.rules(x, times(12, "level 1 5;"));
+        Check.due("tries(11)", x.tries(11, 0, 0), 5);
+        Check.due("tries(12)", x.tries(12, 0, 0), NO_VALUE);
+        Check.rules(x, "level 1 6;");
+        Check.due("one line", x.tries(0, 0, 0), 6);
+        Check.due("no second line", x.tries(1, 0, 0), NO_VALUE);
+        Check.rules(x, "level 1 7;");
+        Check.due("no second line either", x.tries(1, 0, 0), NO_VALUE);
+        Check.due("63 times not", value(x, times(63, "not ") + "1", 0, 0), 0);
+        Check.due("63 times -", value(x, times(63, "-") + "3", 0, 0), -3);
+        Check.due("8 open behind 63 of not", value(x, times(63, "not ") + times(8, "(") + "2" + times(8, ")"), 0, 0), 0);
+        Check.due("all waiting at once", value(x, times(8, "(" + times(6, "-")) + "9" + times(8, ")"), 0, 0), 9);
     }
 
     private static void windows() {
@@ -408,6 +435,15 @@ public final class AlertsTest {
         Check.due("the other kind", value(x, "sum(tilt,10)", 9, 9), 1000);
         Check.due("the edge of a window", value(x, "sum(tilt,7)", 9, 9), 0);
         Check.due("the edge within", value(x, "sum(tilt,8)", 9, 9), 1000);
+        x.post(3);
+        x.read(3, 1, 5, false);
+        x.read(3, 7, -90, false);
+        x.read(3, 0, 77, false);
+        Check.due("first of a later post", value(x, "first(heat,9)", 8, 9), 77);
+        Check.due("last of a later post", value(x, "last(heat,9)", 8, 9), -90);
+        Check.due("first of an earlier post", value(x, "first(heat,6)", 7, 9), -4);
+        Check.due("last of an earlier post", value(x, "last(heat,7)", 6, 9), 3);
+        Check.due("first among posts", value(x, "first(heat,2)", 7, 9), 3);
         Check.due("a hour behind", value(x, "sum(tilt,8)", 1, 9), 0);
     }
 
@@ -488,6 +524,11 @@ public final class AlertsTest {
         x.post(0);
         Check.due("with one more post", x.level(50), 2);
         Check.due("with one more post, ahead", x.level(10), 0);
+        Check.due("with one more post, in 0", x.level(0), 2);
+        Check.rules(x, "level 1 gaps(tremor,1) = 3;");
+        Check.due("not yet in 0", x.level(0), 0);
+        x.post(0);
+        Check.due("with a third post, in 0", x.level(0), 1);
         Check.rules(x, "keep 24; level 2 count(tremor,1) = 1 and last(tremor,1) = 3;");
         Check.due("level(34)", x.level(34), 2);
         Check.due("level(35)", x.level(35), 0);

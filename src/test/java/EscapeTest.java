@@ -18,6 +18,9 @@ public final class EscapeTest {
         promise26Best();
         bestByTheRulesForWorks();
         bestOfPairs();
+        bestOfTrenchAndWall();
+        bestForARoad();
+        bestAnewWhenSomethingChanged();
         Check.end("EscapeTest");
     }
 
@@ -474,5 +477,64 @@ public final class EscapeTest {
             x.work(cell, true, true);
         }
         best("one of two may be", x, 2, 1, 6, -1, 0, 100);
+    }
+
+    private static void bestOfTrenchAndWall() {
+        VolcanoWatch x = new VolcanoWatch();
+        x.land(8, 2);
+        int[] heights = {20, 0, 5, 0, 0, 1, 2, 3};
+        for (int cell = 0; cell < 16; cell++) {
+            x.ground(cell, cell < 8 ? heights[cell] : 999, cell == 3 ? 7 : cell == 4 ? 9 : 0);
+        }
+        x.work(1, false, true);
+        x.world(0, 0, 4, 1, 1);
+        x.world(0, 7, 4, 1, 1);
+        x.candidate(1);
+        x.candidate(6);
+        // 3 and 4 in the one world, 4 in the other
+        Check.due("buried", x.cost(1), 25);
+        best("of a trench at a wall and a wall", x, 2, 2, 1, 2, 0, 0);
+        Check.due("buried still", x.cost(1), 25);
+        Check.due("one work still", x.count(10), 1);
+        Check.due("a wall still", x.look(1, 2), 1);
+    }
+
+    private static void bestForARoad() {
+        VolcanoWatch x = stream();
+        Check.rules(x, "level 4 1;");
+        x.shelter(999);
+        x.town(0, 200, 3, 0);
+        x.road(1, 0, 5, 10, 1, 3);
+        // over cell 3, shut from 13 on: they leave till 7
+        Check.due("saved", x.ledOut(0, 0), 80);
+        x.ground(3, 0, 0);
+        x.candidate(2);
+        best("a wall keeps the road open", x, 1, 1, 0, -1, 180, 0);
+        x.road(1, 0, 5, 10, 1, 4);
+        best("with another road", x, 1, 1, 0, -1, 0, 0);
+    }
+
+    private static void bestAnewWhenSomethingChanged() {
+        VolcanoWatch x = stream();
+        x.candidate(2);
+        best("at first", x, 1, 1, 0, -1, 0, 0);
+        x.world(0, 3, 1, 1, 5);
+        best("with one more world", x, 1, 1, 0, -1, 0, 35);
+        Check.due("cost with one more world", x.cost(1), 49);
+        x.town(3, 10, 1, 0);
+        best("with a town", x, 1, 1, 0, -1, 50, 35);
+        x.shelter(99);
+        x.road(0, 1, 1, 4, 1, -1);
+        Check.rules(x, "level 1 1;");
+        // in the second world 4 leave in 0; in the first all have left in time
+        best("with a road and a warning", x, 1, 1, 0, -1, 30, 35);
+        x.work(2, false, true);
+        best("with it built", x, 1, 0, -1, -1, 30, 35);
+        x.candidate(0);
+        x.ground(0, 3, 1);
+        best("with one more house", x, 1, 0, -1, -1, 30, 37);
+        x.land(4, 2);
+        best("on another land", x, 1, 0, -1, -1, 0, 0);
+        Check.due("cost on another land", x.cost(0), 0);
     }
 }

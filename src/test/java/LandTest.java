@@ -223,6 +223,15 @@ public final class LandTest {
         Check.due("of like ones the least: above", x.lava(0, 1, 1, 0), 3);
         Check.due("none across", x.lava(0, 1, 0, 0), 0);
         Check.due("the vent keeps the rest", x.lava(0, 1, 4, 0), 5);
+        x.land(8, 8);
+        x.world(0, 63, 99, 12, 1);
+        Check.due("to the left", x.lava(0, 2, 62, 0) > 0, true);
+        Check.due("to above", x.lava(0, 1, 55, 0), 49);
+        int all = 0;
+        for (int cell = 0; cell < 64; cell++) {
+            all += x.lava(0, 12, cell, 0) + x.lava(0, 12, cell, 1);
+        }
+        Check.due("nothing is lost of 12 times 99", all, 12 * 99);
     }
 
     private static void promise17Reached() {
