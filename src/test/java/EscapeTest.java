@@ -18,7 +18,9 @@ public final class EscapeTest {
         promise26Best();
         bestByTheRulesForWorks();
         bestOfPairs();
-        bestOfTrenchAndWall();
+        bestOfTrenchAndWall(0);
+        bestOfTrenchAndWall(1);
+        bestOfTrenchAndWall(4);
         bestForARoad();
         bestAnewWhenSomethingChanged();
         Check.end("EscapeTest");
@@ -479,7 +481,7 @@ public final class EscapeTest {
         best("one of two may be", x, 2, 1, 6, -1, 0, 100);
     }
 
-    private static void bestOfTrenchAndWall() {
+    private static void bestOfTrenchAndWall(int candidatesAhead) {
         VolcanoWatch x = new VolcanoWatch();
         x.land(8, 2);
         int[] heights = {20, 0, 5, 0, 0, 1, 2, 3};
@@ -489,11 +491,15 @@ public final class EscapeTest {
         x.work(1, false, true);
         x.world(0, 0, 4, 1, 1);
         x.world(0, 7, 4, 1, 1);
+        for (int i = 0; i < candidatesAhead; i++) {
+            x.candidate(12 + i);
+        }
         x.candidate(1);
         x.candidate(6);
         // 3 and 4 in the one world, 4 in the other
         Check.due("buried", x.cost(1), 25);
-        best("of a trench at a wall and a wall", x, 2, 2, 1, 2, 0, 0);
+        int ahead = 2 * candidatesAhead;
+        best("of a trench at a wall and a wall", x, 2, 2, ahead + 1, ahead + 2, 0, 0);
         Check.due("buried still", x.cost(1), 25);
         Check.due("one work still", x.count(10), 1);
         Check.due("a wall still", x.look(1, 2), 1);

@@ -22,7 +22,7 @@ public final class OracleTest {
 
     public static void main(String[] args) {
         long from = args.length > 0 ? Long.parseLong(args[0]) : 1;
-        long to = args.length > 1 ? Long.parseLong(args[1]) : 400;
+        long to = args.length > 1 ? Long.parseLong(args[1]) : 800;
         int wrongRuns = 0;
         for (long seed = from; seed <= to && wrongRuns < 5; seed++) {
             OracleTest test = new OracleTest(seed);
