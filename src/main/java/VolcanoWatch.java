@@ -1106,10 +1106,12 @@ public final class VolcanoWatch {
         }
 
         int known(int post, int hour, int k) {
-            for (int i = latest[post * HOUR_COUNT + hour]; i != NONE; i = former[i]) {
-                if (toldIn[i] <= k) {
-                    return values[i];
+            int told = latest[post * HOUR_COUNT + hour];
+            for (int i = 0; i < toldCount && told != NONE; i++) {
+                if (toldIn[told] <= k) {
+                    return values[told];
                 }
+                told = former[told];
             }
             return MISSING;
         }
@@ -1703,13 +1705,15 @@ public final class VolcanoWatch {
             int known = 1;
             for (int i = 0; i < known; i++) {
                 int node = queue[i];
-                for (int arc = firstArcs[node]; arc != NONE; arc = nextArcs[arc]) {
+                int arc = firstArcs[node];
+                for (int seen = 0; seen < arcCount && arc != NONE; seen++) {
                     int end = ends[arc];
                     if (spaces[arc] > 0 && depths[end] == NONE && known < NODES) {
                         depths[end] = depths[node] + 1;
                         queue[known] = end;
                         known++;
                     }
+                    arc = nextArcs[arc];
                 }
             }
             return depths[SINK] != NONE;
@@ -1744,11 +1748,15 @@ public final class VolcanoWatch {
 
         private int deeperArc(int node) {
             int arc = tried[node];
-            while (arc != NONE && (spaces[arc] <= 0 || depths[ends[arc]] <= depths[node])) {
+            for (int i = 0; i < arcCount && arc != NONE && !leadsDeeper(node, arc); i++) {
                 arc = nextArcs[arc];
             }
             tried[node] = arc;
             return arc;
+        }
+
+        private boolean leadsDeeper(int node, int arc) {
+            return spaces[arc] > 0 && depths[ends[arc]] > depths[node];
         }
 
         private int pushAlong(int length) {

@@ -17,6 +17,14 @@ final class Check {
         due(call, got ? 1 : 0, want ? 1 : 0);
     }
 
+    static void due(String call, String got, String want) {
+        asked++;
+        if (!got.equals(want)) {
+            wrong++;
+            System.out.println(call + " answered " + got + ", due is " + want);
+        }
+    }
+
     /** Feeds the text, filled up with blanks. */
     static void feed(VolcanoWatch x, String text) {
         for (int i = 0; i < text.length(); i += 20) {
