@@ -68,7 +68,9 @@ public final class EdgesOfAlertsTest {
 
     /** Promise 2: NONE, and none come, if it would have more than 500. */
     private static void theTapeIsFull() {
-        Scene nearlyFull = Scene.of("text keep 9;").times(23, BLANKS);
+        Scene some = Scene.of("ground 3 5 0", "post 0", "read 0 0 3 0", "wind 5 0 3", "world 5 0 9 2 2", "shelter 9",
+            "candidate 9", "work 8 1 1", "rules keep 3; level 2 1;");
+        Scene nearlyFull = some.and("text keep 9;").times(23, BLANKS);
         nearlyFull.answers(BLANKS, 500);
         Scene full = nearlyFull.and(BLANKS + " = 500");
         full.refuses(BLANKS, -1);

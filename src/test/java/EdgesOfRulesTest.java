@@ -441,18 +441,15 @@ public final class EdgesOfRulesTest {
         Check.due("and is gone", x.rules(1), -2);
     }
 
+    /** Promise 3: NONE with a FAULT; the RULES that were told ahead stay. */
     private static void faultsChangeNothing() {
-        Scene rules = Scene.of("post 0", "read 0 0 3 0", "world 5 3 9 2 2", "town 4 50 2 0",
-            "rules keep 5; level 2 last(tremor,2) = 3; level 1 1;");
+        Scene some = Scene.of("ground 3 5 0", "ground 4 9 7", "post 0", "post 2", "read 0 0 3 0", "wind 5 0 3",
+            "world 5 0 9 2 2", "town 4 50 2 0", "shelter 9", "road 0 1 1 3 1 2", "candidate 9", "work 8 1 1");
+        Scene ruled = some.and("rules keep 5; level 2 last(tremor,2) = 3; level 1 1;");
         for (String text : List.of("keep 25;", "keep 1;keep 1;", "level 4 1;level 5 1;", "level 4 1;level 3 1", "$",
-            "level 1 1;".repeat(13))) {
-            VolcanoWatch x = rules.make();
-            VolcanoWatch y = rules.make();
-            Check.due("rules of '" + text + "'", Check.rules(x, text), -1);
-            for (String call : List.of("count 3", "count 4", "count 5", "raw 0 0", "raw 1 1", "raw 3 3", "level 5",
-                "level 7", "tries 0 0 0", "tries 1 0 0", "tries 2 0 0", "warned 0", "ledOut 0 0", "count 0")) {
-                Check.due(call + " behind a fault", Scene.answer(x, call), Scene.answer(y, call));
-            }
+            "level 1 1;".repeat(13), "keep 1;level 4 " + "(".repeat(9))) {
+            some.and("text " + text).findsFault("rules " + text.length());
+            ruled.and("text " + text).findsFault("rules " + text.length());
         }
     }
 

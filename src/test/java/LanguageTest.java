@@ -193,6 +193,10 @@ public final class LanguageTest {
         String[] lines = text.split("\n");
         for (int i = 0; i < lines.length; i++) {
             Check.due("length of line " + (i + 1), lines[i].length() <= 120, true);
+            if (lines[i].matches(" *(for|while) \\(.*")) {
+                boolean bound = lines[i].matches(".* (<|<=|>|>=) .*");
+                Check.due("a counter against a bound in the loop of line " + (i + 1), bound, true);
+            }
             if (lines[i].matches(" {4,8}[a-zA-Z].*\\) (throws .*)?\\{")) {
                 start = i;
             }

@@ -16,6 +16,7 @@ final class Scene {
     /** Asked of the tape: how much it holds, and what. */
     private static final List<String> OF_TAPE = List.of("rules 21", "rules 501", "rules 20", "fault 0", "fault 1",
         "count 3", "count 4", "count 5", "rules 1", "feed 1 2 3 4 5", "rules 20", "fault 0", "fault 1");
+    private static final List<String> OF_FAULT = List.of("fault 0", "fault 1");
     /** What comes next gets the next number and finds all that it needs as it was. */
     private static final List<String> OF_NEXT = List.of("post 1", "read 0 0 5 0", "hours 1", "read 0 1 6 0",
         "world 5 3 7 2 4", "town 1 5 2 1", "shelter 9", "road 0 1 2 3 4 -1", "road 1 2 1 1 1 2", "candidate 2",
@@ -123,25 +124,37 @@ final class Scene {
 
     void refuses(String call, String due) {
         if (asItIs == null) {
-            asItIs = inquire(null, null);
+            asItIs = inquire(null, null, true);
         }
-        List<String> then = inquire(call, due);
+        compare(call, asItIs, inquire(call, due, true));
+    }
+
+    /** rules() finds a FAULT: nothing has changed but what fault() answers and the tape, which is empty. */
+    void findsFault(String rules) {
+        compare(rules, inquire(null, null, false), inquire(rules, "-1", false));
+        and(rules).answers("rules 1", -2);
+    }
+
+    private void compare(String call, List<String> before, List<String> then) {
         for (int i = 0; i < then.size(); i++) {
-            if (!then.get(i).equals(asItIs.get(i))) {
-                Check.due(call + " behind " + this + " changed something: " + then.get(i), asItIs.get(i), then.get(i));
+            if (!then.get(i).equals(before.get(i))) {
+                Check.due(call + " behind " + this + " changed something: " + then.get(i), before.get(i), then.get(i));
                 return;
             }
         }
     }
 
-    private List<String> inquire(String call, String due) {
+    private List<String> inquire(String call, String due, boolean ofTapeToo) {
         List<String> answers = new ArrayList<>();
         int atOnce = MOST_CALLS - calls() - 1;
         for (int from = 0; from < QUESTIONS.size(); from += atOnce) {
             ask(call, due, QUESTIONS.subList(from, Math.min(from + atOnce, QUESTIONS.size())), answers);
         }
-        ask(call, due, OF_TAPE, answers);
         ask(call, due, OF_NEXT, answers);
+        if (ofTapeToo) {
+            ask(call, due, OF_FAULT, answers);
+            ask(call, due, OF_TAPE, answers);
+        }
         return answers;
     }
 
@@ -166,7 +179,7 @@ final class Scene {
         for (int what = 0; what <= 10; what++) {
             all.add("count " + what);
         }
-        all.addAll(List.of("fault 0", "fault 1", "cost 0", "cost 1"));
+        all.addAll(List.of("cost 0", "cost 1"));
         for (int i = 0; i < 8; i++) {
             all.add("warned " + i);
             for (int hour : new int[] {0, 1, 5, 99}) {
