@@ -1,3 +1,5 @@
+import java.util.ArrayList;
+import java.util.List;
 import java.util.Random;
 
 /** Runs of calls from a seeded source, put to the program and to the oracle, which must agree on every answer. */
@@ -6,18 +8,23 @@ public final class OracleTest {
         "level", "land", "ground", "work", "world", "lava", "reached", "town", "shelter", "road", "warned", "ledOut",
         "cut", "cost", "candidate", "best", "wind", "ash", "look", "count"};
 
+    /** Sources of seeds that lie close together begin alike; this lays them far apart. */
+    private static final long FAR_APART = 0x9E3779B97F4A7C15L;
+    private static final int KINDS = 6;
+
     private final Random random;
     private final VolcanoWatch watch = new VolcanoWatch();
     private final Oracle oracle = new Oracle();
     private final StringBuilder log = new StringBuilder();
+    /** Of the WORLDS that stand: from which HOUR on. */
+    private final List<Integer> starts = new ArrayList<>();
     private int cells = 16;
-    private int width = 4;
     private int calls = 0;
     private boolean wrong = false;
     private int dearCalls = 0;
 
     private OracleTest(long seed) {
-        random = new Random(seed);
+        random = new Random(seed * FAR_APART);
     }
 
     public static void main(String[] args) {
@@ -26,7 +33,7 @@ public final class OracleTest {
         int wrongRuns = 0;
         for (long seed = from; seed <= to && wrongRuns < 5; seed++) {
             OracleTest test = new OracleTest(seed);
-            test.run();
+            test.run((int) (seed % KINDS));
             if (test.wrong) {
                 wrongRuns++;
                 System.out.println("seed " + seed + ":\n" + test.log);
@@ -38,10 +45,12 @@ public final class OracleTest {
         System.out.println("program and oracle agree on runs " + from + " to " + to);
     }
 
-    private void run() {
-        switch (random.nextInt(4)) {
+    private void run(int kind) {
+        switch (kind) {
             case 0: wander(); break;
             case 1: askOfRules(); break;
+            case 2: askOfLand(); break;
+            case 3: askOfBest(); break;
             default: askOfEscape();
         }
     }
@@ -55,19 +64,46 @@ public final class OracleTest {
     }
 
     private void askOfRules() {
+        call("post", random.nextInt(4));
+        call("post", random.nextInt(4));
+        feedText(anyRules(), true);
         while (calls < 480 && !wrong) {
-            int kind = random.nextInt(12);
+            int kind = random.nextInt(24);
             if (kind == 0) {
                 feedText(anyRules(), true);
                 call("count", 3 + random.nextInt(3));
             } else if (kind == 1) {
-                call("hours", random.nextInt(6));
+                call("hours", random.nextInt(random.nextInt(4) == 0 ? 20 : 3));
             } else if (kind == 2) {
                 call("post", random.nextInt(4));
-            } else if (kind <= 5) {
+            } else if (kind <= 12) {
                 tellSome();
             } else {
                 askAlerts();
+            }
+        }
+    }
+
+    private void askOfLand() {
+        if (random.nextInt(4) > 0) {
+            layLand();
+        }
+        shapeLand();
+        while (calls < 480 && !wrong) {
+            int kind = random.nextInt(24);
+            if (kind == 0) {
+                shapeLand();
+            } else if (kind == 1 && random.nextInt(3) == 0) {
+                layLand();
+                shapeLand();
+            } else if (kind <= 3) {
+                buildSome();
+            } else if (kind <= 5) {
+                blowSome();
+            } else if (kind == 6) {
+                anyCall();
+            } else {
+                askLand();
             }
         }
     }
@@ -103,6 +139,29 @@ public final class OracleTest {
         }
     }
 
+    /** A little land, where works are worth their while. */
+    private void askOfBest() {
+        call("land", 2 + random.nextInt(4), 2 + random.nextInt(3));
+        feedText("level 3 1;", true);
+        for (int i = 0; i < cells; i++) {
+            call("ground", i, random.nextInt(12), random.nextInt(3) == 0 ? random.nextInt(20) : 0);
+        }
+        for (int i = random.nextInt(3); i < 3; i++) {
+            call("world", random.nextInt(40), cell(), 1 + random.nextInt(30), 1 + random.nextInt(4),
+                1 + random.nextInt(4));
+        }
+        for (int i = 0; i < 7; i++) {
+            call("candidate", cell());
+        }
+        settlePeople();
+        for (int i = 0; i < 4; i++) {
+            call("best", 1 + random.nextInt(2), 0);
+            call("best", 1 + random.nextInt(2), 1 + random.nextInt(4));
+            buildSome();
+            call("ground", cell(), random.nextInt(20), random.nextInt(30));
+        }
+    }
+
     private void layLand() {
         call("land", 2 + random.nextInt(random.nextBoolean() ? 3 : 7), 2 + random.nextInt(random.nextBoolean() ? 3 : 7));
     }
@@ -112,10 +171,23 @@ public final class OracleTest {
         for (int i = 0; i < 6; i++) {
             call("ground", cell(), random.nextInt(high), random.nextInt(3) == 0 ? random.nextInt(100) : 0);
         }
-        call("work", cell(), random.nextInt(2), random.nextInt(3) > 0 ? 1 : 0);
+        buildSome();
         call("world", random.nextInt(random.nextBoolean() ? 20 : 100), cell(), 1 + random.nextInt(99),
             1 + random.nextInt(12), 1 + random.nextInt(99));
         call("candidate", cell());
+    }
+
+    private void buildSome() {
+        for (int i = 0; i < 2; i++) {
+            call("work", cell(), random.nextInt(2), random.nextInt(3) > 0 ? 1 : 0);
+        }
+    }
+
+    private void blowSome() {
+        int from = starts.isEmpty() ? random.nextInt(124) : starts.get(random.nextInt(starts.size()));
+        for (int i = 0; i < 6; i++) {
+            call("wind", from + random.nextInt(14) - 1, random.nextInt(8), random.nextInt(8));
+        }
     }
 
     private void settlePeople() {
@@ -124,7 +196,7 @@ public final class OracleTest {
         }
         call("shelter", random.nextInt(1500));
         for (int i = 0; i < 5; i++) {
-            call("road", random.nextInt(8), random.nextInt(8), 1 + random.nextInt(5),
+            call("road", place(), place(), 1 + random.nextInt(5),
                 1 + random.nextInt(random.nextBoolean() ? 60 : 999), 1 + random.nextInt(6),
                 random.nextInt(3) == 0 ? -1 : cell());
         }
@@ -134,32 +206,48 @@ public final class OracleTest {
         for (int i = 0; i < 4; i++) {
             int now = oracle.count(0);
             int value = random.nextBoolean() ? random.nextInt(21) - 10 : random.nextInt(19999) - 9999;
-            call("read", random.nextInt(3), Math.max(0, now - random.nextInt(6)), value,
+            call("read", post(), Math.max(0, now - random.nextInt(6) + random.nextInt(40) / 39), value,
                 random.nextInt(6) == 0 ? 1 : 0);
         }
     }
 
     private void askAlerts() {
         int near = Math.max(0, Math.min(99, oracle.count(0) + random.nextInt(9) - 6));
-        int k = Math.max(0, Math.min(99, near + random.nextInt(5) - 2));
+        int k = random.nextInt(3) == 0 ? Math.max(0, Math.min(99, near + random.nextInt(5) - 2)) : oracle.count(0);
         call("tries", random.nextInt(3), near, k);
         call("raw", near, k);
         call("level", Math.min(99, near + random.nextInt(8)));
-        call("reading", random.nextInt(3), near, k);
+        call("reading", post(), near, k);
+    }
+
+    private void askLand() {
+        switch (random.nextInt(7)) {
+            case 0: call("reached", world(), cell()); break;
+            case 1: call("look", cell(), random.nextInt(3)); break;
+            case 2: call(random.nextBoolean() ? "cost" : "count", 1); break;
+            case 3: call("ledOut", world(), 2); break;
+            case 4: call("ash", world(), cell()); break;
+            default: call("lava", world(), random.nextInt(13), cell(), random.nextInt(2));
+        }
     }
 
     private void askEscape() {
-        int world = random.nextInt(3);
-        switch (random.nextInt(9)) {
-            case 0: call("ledOut", world, random.nextInt(3)); break;
-            case 1: call("cost", random.nextInt(2)); break;
-            case 2: call("warned", random.nextInt(8)); break;
-            case 3: call("reached", world, cell()); break;
-            case 4: call("lava", world, random.nextInt(13), cell(), random.nextInt(2)); break;
-            case 5: call("work", cell(), random.nextInt(2), random.nextInt(2)); break;
+        switch (random.nextInt(12)) {
+            case 0:
+            case 1: call("ledOut", world(), random.nextInt(3)); break;
+            case 2: call("cost", random.nextInt(2)); break;
+            case 3: call("warned", place()); break;
+            case 4: askLand(); break;
+            case 5: buildSome(); break;
             case 6: askBest(); break;
-            default: call("cut", world, random.nextInt(8), random.nextInt(random.nextBoolean() ? 32 : 112));
+            default: askCut();
         }
+    }
+
+    private void askCut() {
+        int world = world();
+        int start = world < starts.size() ? starts.get(world) : random.nextInt(100);
+        call("cut", world, place(), start + random.nextInt(27) - 13);
     }
 
     /** The oracle takes long over the best of many sets, so that a run asks for few of them. */
@@ -200,6 +288,20 @@ public final class OracleTest {
             case 4: return random.nextInt(20);
             default: return random.nextInt(6) - 1;
         }
+    }
+
+    private int post() {
+        int posts = oracle.count(1);
+        return random.nextInt(40) == 0 ? posts : random.nextInt(Math.max(1, posts));
+    }
+
+    private int world() {
+        return random.nextInt(30) == 0 ? starts.size() : random.nextInt(Math.max(1, starts.size()));
+    }
+
+    private int place() {
+        int places = oracle.count(7);
+        return random.nextInt(30) == 0 ? places : random.nextInt(Math.max(1, places));
     }
 
     private int cell() {
@@ -296,8 +398,11 @@ public final class OracleTest {
         String got = answer(() -> OracleFace.ask(watch, name, args));
         log.append(name).append(java.util.Arrays.toString(given)).append(" -> ").append(got).append('\n');
         if (name.equals("land") && due.equals("1")) {
-            width = args[0];
-            cells = width * args[1];
+            cells = args[0] * args[1];
+            starts.clear();
+        }
+        if (name.equals("world") && !due.equals("-1")) {
+            starts.add(args[0]);
         }
         if (!due.equals(got)) {
             wrong = true;
