@@ -41,6 +41,7 @@ public final class LanguageTest {
 
     public static void main(String[] args) throws IOException {
         theFace();
+        fieldsOfClasses();
         namesOfMethods();
         LanguageTest test = new LanguageTest();
         test.readBytecode();
@@ -78,9 +79,38 @@ public final class LanguageTest {
         for (Class<?> inner : face.getDeclaredClasses()) {
             boolean hidden = !Modifier.isPublic(inner.getModifiers()) && !Modifier.isProtected(inner.getModifiers());
             Check.due("class " + inner, hidden && Modifier.isStatic(inner.getModifiers()), true);
-            Check.due("fields of " + inner, inner.getDeclaredFields().length > 0, true);
         }
         Check.due("classes", face.getDeclaredClasses().length <= 11, true);
+    }
+
+    private static List<Class<?>> allClasses() {
+        List<Class<?>> all = new ArrayList<>(List.of(VolcanoWatch.class.getDeclaredClasses()));
+        all.add(VolcanoWatch.class);
+        return all;
+    }
+
+    private static void fieldsOfClasses() {
+        for (Class<?> c : allClasses()) {
+            int own = 0;
+            for (Field f : c.getDeclaredFields()) {
+                boolean fixed = Modifier.isStatic(f.getModifiers());
+                own += fixed ? 0 : 1;
+                Check.due("type of " + f, fixed ? mayBeStatic(f) : mayBeHeld(f.getType()), true);
+            }
+            Check.due("fields of " + c, own <= 20, true);
+            Check.due("kind of " + c, c.getInterfaces().length == 0 && c.getSuperclass() == Object.class, true);
+        }
+    }
+
+    private static boolean mayBeStatic(Field f) {
+        Set<Class<?>> types = Set.of(int.class, long.class, boolean.class, char.class, String.class, int[].class,
+            long[].class, char[].class, byte[].class);
+        return Modifier.isFinal(f.getModifiers()) && types.contains(f.getType());
+    }
+
+    private static boolean mayBeHeld(Class<?> type) {
+        Class<?> held = type.isArray() ? type.getComponentType() : type;
+        return held == int.class || held == long.class || held == boolean.class || allClasses().contains(held);
     }
 
     private static void namesOfMethods() {
@@ -88,9 +118,7 @@ public final class LanguageTest {
         for (String m : FACE) {
             names.add(m.substring(m.indexOf(' ') + 1, m.indexOf('(')));
         }
-        List<Class<?>> all = new ArrayList<>(List.of(VolcanoWatch.class.getDeclaredClasses()));
-        all.add(VolcanoWatch.class);
-        for (Class<?> c : all) {
+        for (Class<?> c : allClasses()) {
             for (Method m : c.getDeclaredMethods()) {
                 boolean open = c == VolcanoWatch.class && Modifier.isPublic(m.getModifiers());
                 Check.due("name of " + m, open || !names.contains(m.getName()), true);
